@@ -385,14 +385,14 @@ public final class FannedSites {
             flat = allOnOneLine(points);
             int last = points.size() - 1;
             for (int place = 0; place <= last; place++) {
-                push(points, points.inOrder(place), 0);
+                push(points, points.inOrder(place));
             }
             if (flat) {
                 return;
             }
-            int turn = size - 1;
+            // on the way back no site is on the right of the lower chain, so that it stays as it is
             for (int place = last - 1; place >= 0; place--) {
-                push(points, points.inOrder(place), turn);
+                push(points, points.inOrder(place));
             }
             // the way has come back to its beginning, which counts once
             size--;
@@ -407,9 +407,9 @@ public final class FannedSites {
             return true;
         }
 
-        /** Sites from which the way would turn right go; those before the place start stay. */
-        private void push(Points points, int slot, int start) {
-            while (size >= start + 2 && points.side(row[size - 2], row[size - 1], slot) < 0) {
+        /** Sites at which the way to the new one would turn right go. */
+        private void push(Points points, int slot) {
+            while (size >= 2 && points.side(row[size - 2], row[size - 1], slot) < 0) {
                 size--;
             }
             if (size < row.length) {
