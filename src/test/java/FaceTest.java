@@ -22,7 +22,7 @@ public final class FaceTest {
         DUE.same("SAME", FannedSites.SAME, -3);
         DUE.same("FULL", FannedSites.FULL, -4);
         Class<?> face = FannedSites.class;
-        DUE.same("public and final", Modifier.isPublic(face.getModifiers()) && Modifier.isFinal(face.getModifiers()), true);
+        DUE.same("public and final", face.getModifiers(), Modifier.PUBLIC | Modifier.FINAL);
         checkMethods(face);
         checkFields(face);
         checkConstructors(face);
@@ -48,7 +48,8 @@ public final class FaceTest {
         }
         DUE.same("methods " + open, open.equals(METHODS), true);
         for (Method method : face.getDeclaredMethods()) {
-            DUE.same(method + " is private with a public name", isPrivate(method) && names.contains(method.getName()), false);
+            boolean clashes = isPrivate(method) && names.contains(method.getName());
+            DUE.same(method + " is private with a public name", clashes, false);
         }
     }
 
@@ -66,7 +67,8 @@ public final class FaceTest {
             if (!isPrivate(field)) {
                 open.add(field.getName());
                 int wanted = Modifier.PUBLIC | Modifier.STATIC | Modifier.FINAL;
-                DUE.same(field + " is a public constant", field.getModifiers() == wanted && field.getType() == int.class, true);
+                DUE.same(field + " is a public constant", field.getModifiers(), wanted);
+                DUE.same(field + " is an int", field.getType() == int.class, true);
             }
         }
         DUE.same("constants " + open, open.equals(CONSTANTS), true);

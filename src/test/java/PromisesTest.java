@@ -276,7 +276,8 @@ public final class PromisesTest {
         trianglesAre("8: of equal x the lesser y is earlier", of(1, 0, 0, 5, 0, 0), code(2, 0, 1));
         trianglesAre("8: by second, then by third corner",
             of(0, 0, 10, -9, 10, 9, 9, 0), code(0, 1, 3), code(0, 3, 2), code(3, 1, 2));
-        trianglesAre("8: the other diagonal when it is shorter", of(0, 0, 4, 0, 5, 5, 0, 4), code(0, 1, 3), code(3, 1, 2));
+        trianglesAre("8: the other diagonal when it is shorter",
+            of(0, 0, 4, 0, 5, 5, 0, 4), code(0, 1, 3), code(3, 1, 2));
         FannedSites x = square();
         int[] none = {-1, 2, 3, 34, 35, 36, LEAST, MOST};
         for (int i : none) {
