@@ -1,8 +1,5 @@
 /** Each promise by itself: ordinary inputs, the edges that the document names, and wrong inputs. */
-public final class PromisesTest {
-    private static final Due DUE = new Due();
-    private static final int LEAST = Integer.MIN_VALUE;
-    private static final int MOST = Integer.MAX_VALUE;
+public final class PromisesTest extends SiteChecks {
     private static final int[] NO_SLOTS = {-1, 4, 19, 20, 31, 32, 33, 64, LEAST, MOST};
 
     public static void main(String[] args) {
@@ -15,7 +12,7 @@ public final class PromisesTest {
         sites();
         coordinate();
         triangles();
-        mostTriangles();
+        asManyAsThereCanBe();
         triangle();
         triangleOfManyCorners();
         number();
@@ -32,54 +29,6 @@ public final class PromisesTest {
         area();
         sameHoweverItCameAbout();
         DUE.end();
-    }
-
-    private static FannedSites of(int... xy) {
-        FannedSites x = new FannedSites();
-        for (int i = 0; i < xy.length; i += 2) {
-            DUE.same("insert(" + xy[i] + ", " + xy[i + 1] + ")", x.insert(xy[i], xy[i + 1]), i / 2);
-        }
-        return x;
-    }
-
-    /** Slots 0 to 3 are the corners of a square, counterclockwise. */
-    private static FannedSites square() {
-        return of(0, 0, 4, 0, 4, 4, 0, 4);
-    }
-
-    private static FannedSites full() {
-        FannedSites x = new FannedSites();
-        for (int slot = 0; slot < 20; slot++) {
-            DUE.same("slot", x.insert(slot, slot * slot), slot);
-        }
-        return x;
-    }
-
-    private static int code(int first, int second, int third) {
-        return first + 32 * second + 1024 * third;
-    }
-
-    private static int set(int... slots) {
-        int sum = 0;
-        for (int slot : slots) {
-            sum += 1 << slot;
-        }
-        return sum;
-    }
-
-    private static void boundaryIs(String what, FannedSites x, int... slots) {
-        for (int i = 0; i < slots.length; i++) {
-            DUE.same(what + ": boundary(" + i + ")", x.boundary(i), slots[i]);
-        }
-        DUE.same(what + ": boundary(" + slots.length + ")", x.boundary(slots.length), FannedSites.NONE);
-    }
-
-    private static void trianglesAre(String what, FannedSites x, int... codes) {
-        DUE.same(what + ": triangles()", x.triangles(), codes.length);
-        for (int i = 0; i < codes.length; i++) {
-            DUE.same(what + ": triangle(" + i + ")", x.triangle(i), codes[i]);
-        }
-        DUE.same(what + ": triangle(" + codes.length + ")", x.triangle(codes.length), FannedSites.NONE);
     }
 
     private static void newObject() {
@@ -109,8 +58,7 @@ public final class PromisesTest {
         DUE.same("2: the same point", x.insert(0, 0), FannedSites.SAME);
         DUE.same("2: the same x alone", x.insert(0, 1), 3);
         DUE.same("2: the same y alone", x.insert(1, 0), 4);
-        int[] out = {1000001, -1000001, LEAST, MOST};
-        for (int far : out) {
+        for (int far : FAR) {
             DUE.same("2: insert(" + far + ", 0)", x.insert(far, 0), FannedSites.BAD);
             DUE.same("2: insert(0, " + far + ")", x.insert(0, far), FannedSites.BAD);
         }
@@ -156,12 +104,11 @@ public final class PromisesTest {
     private static void move() {
         FannedSites x = square();
         for (int slot : NO_SLOTS) {
-            DUE.same("4: move(" + slot + ", 9, 9)", x.move(slot, 9, 9), FannedSites.NONE);
-            DUE.same("4: none before bad", x.move(slot, 1000001, 0), FannedSites.NONE);
-            DUE.same("4: none before same", x.move(slot, 4, 4), FannedSites.NONE);
+            DUE.same("4: move(" + slot + ", 9, 9)", x.move(slot, 9, 9), NONE);
+            DUE.same("4: none before bad", x.move(slot, 1000001, 0), NONE);
+            DUE.same("4: none before same", x.move(slot, 4, 4), NONE);
         }
-        int[] out = {1000001, -1000001, LEAST, MOST};
-        for (int far : out) {
+        for (int far : FAR) {
             DUE.same("4: move(1, " + far + ", 0)", x.move(1, far, 0), FannedSites.BAD);
             DUE.same("4: move(1, 0, " + far + ")", x.move(1, 0, far), FannedSites.BAD);
         }
@@ -239,15 +186,12 @@ public final class PromisesTest {
     }
 
     /** Twenty sites, of which three are on the boundary, have as many triangles as there can be. */
-    private static void mostTriangles() {
-        FannedSites x = of(-1000000, -1000000, 1000000, -1000000, 0, 1000000);
-        for (int slot = 3; slot < 20; slot++) {
-            DUE.same("7: insert", x.insert(37 * slot, slot * slot * slot), slot);
-        }
+    private static void asManyAsThereCanBe() {
+        FannedSites x = mostTriangles();
         boundaryIs("7: three of twenty", x, 0, 1, 2);
         DUE.same("7: the most triangles", x.triangles(), 35);
         DUE.same("8: there is a triangle 34", x.triangle(34) >= 0, true);
-        DUE.same("8: there is no triangle 35", x.triangle(35), FannedSites.NONE);
+        DUE.same("8: there is no triangle 35", x.triangle(35), NONE);
         long sum = 0;
         int links = 0;
         for (int slot = 0; slot < 20; slot++) {
@@ -281,7 +225,7 @@ public final class PromisesTest {
         FannedSites x = square();
         int[] none = {-1, 2, 3, 34, 35, 36, LEAST, MOST};
         for (int i : none) {
-            DUE.same("8: triangle(" + i + ")", x.triangle(i), FannedSites.NONE);
+            DUE.same("8: triangle(" + i + ")", x.triangle(i), NONE);
         }
     }
 
@@ -309,17 +253,17 @@ public final class PromisesTest {
             int[] other = {0, 2, 3};
             DUE.same("9: number of 0, 2, 3", x.number(other[o[0]], other[o[1]], other[o[2]]), 1);
         }
-        DUE.same("9: no triangle of the fan", x.number(0, 1, 3), FannedSites.NONE);
-        DUE.same("9: no triangle of the fan", x.number(1, 2, 3), FannedSites.NONE);
-        DUE.same("9: a slot twice", x.number(0, 0, 1), FannedSites.NONE);
-        DUE.same("9: a slot thrice", x.number(2, 2, 2), FannedSites.NONE);
+        DUE.same("9: no triangle of the fan", x.number(0, 1, 3), NONE);
+        DUE.same("9: no triangle of the fan", x.number(1, 2, 3), NONE);
+        DUE.same("9: a slot twice", x.number(0, 0, 1), NONE);
+        DUE.same("9: a slot thrice", x.number(2, 2, 2), NONE);
         for (int slot : NO_SLOTS) {
-            DUE.same("9: number with " + slot, x.number(slot, 1, 2), FannedSites.NONE);
-            DUE.same("9: number with " + slot, x.number(0, slot, 2), FannedSites.NONE);
-            DUE.same("9: number with " + slot, x.number(0, 1, slot), FannedSites.NONE);
+            DUE.same("9: number with " + slot, x.number(slot, 1, 2), NONE);
+            DUE.same("9: number with " + slot, x.number(0, slot, 2), NONE);
+            DUE.same("9: number with " + slot, x.number(0, 1, slot), NONE);
         }
-        DUE.same("9: a slot and 32", x.number(32, 1, 2), FannedSites.NONE);
-        DUE.same("9: of a flat set", of(0, 0, 1, 1, 2, 2).number(0, 1, 2), FannedSites.NONE);
+        DUE.same("9: a slot and 32", x.number(32, 1, 2), NONE);
+        DUE.same("9: of a flat set", of(0, 0, 1, 1, 2, 2).number(0, 1, 2), NONE);
     }
 
     private static void across() {
@@ -332,11 +276,11 @@ public final class PromisesTest {
         }
         int[] noCorner = {-1, 3, 4, 32, LEAST, MOST};
         for (int k : noCorner) {
-            DUE.same("10: across(0, " + k + ")", x.across(0, k), FannedSites.NONE);
+            DUE.same("10: across(0, " + k + ")", x.across(0, k), NONE);
         }
         int[] noTriangle = {-1, 3, 35, 36, LEAST, MOST};
         for (int i : noTriangle) {
-            DUE.same("10: across(" + i + ", 0)", x.across(i, 0), FannedSites.NONE);
+            DUE.same("10: across(" + i + ", 0)", x.across(i, 0), NONE);
         }
         DUE.same("10: within a face", square().across(0, 1), 1);
         DUE.same("10: within a face", square().across(1, 2), 0);
@@ -350,11 +294,11 @@ public final class PromisesTest {
         DUE.same("11: corners(2)", x.corners(2), 3);
         int[] none = {-1, 3, 34, 35, 36, LEAST, MOST};
         for (int i : none) {
-            DUE.same("11: corners(" + i + ")", x.corners(i), FannedSites.NONE);
+            DUE.same("11: corners(" + i + ")", x.corners(i), NONE);
         }
         x.move(4, 2, 2);
         DUE.same("11: corners(0) with one in the middle", x.corners(0), 3);
-        DUE.same("11: of a flat set", of(0, 0, 1, 1, 2, 2).corners(0), FannedSites.NONE);
+        DUE.same("11: of a flat set", of(0, 0, 1, 1, 2, 2).corners(0), NONE);
     }
 
     private static void locate() {
@@ -368,18 +312,17 @@ public final class PromisesTest {
         DUE.same("12: on a corner of the second", x.locate(0, 4), 1);
         int[][] out = {{5, 0}, {-1, 0}, {2, -1}, {2, 5}, {-4, -4}, {8, 8}, {1000000, 1000000}};
         for (int[] p : out) {
-            DUE.same("12: outside", x.locate(p[0], p[1]), FannedSites.NONE);
+            DUE.same("12: outside", x.locate(p[0], p[1]), NONE);
         }
-        FannedSites wide = of(-1000000, -1000000, 1000000, -1000000, 1000000, 1000000, -1000000, 1000000);
+        FannedSites wide = wholeRange();
         DUE.same("12: the edge of the range", wide.locate(1000000, -1000000), 0);
         DUE.same("12: just beside the diagonal", wide.locate(999998, 999999), 1);
         DUE.same("12: just beside the diagonal", wide.locate(999999, 999998), 0);
-        int[] far = {1000001, -1000001, LEAST, MOST};
-        for (int f : far) {
-            DUE.same("12: locate(" + f + ", 0)", wide.locate(f, 0), FannedSites.NONE);
-            DUE.same("12: locate(0, " + f + ")", wide.locate(0, f), FannedSites.NONE);
+        for (int f : FAR) {
+            DUE.same("12: locate(" + f + ", 0)", wide.locate(f, 0), NONE);
+            DUE.same("12: locate(0, " + f + ")", wide.locate(0, f), NONE);
         }
-        DUE.same("12: on a flat set", of(0, 0, 2, 2, 4, 4).locate(2, 2), FannedSites.NONE);
+        DUE.same("12: on a flat set", of(0, 0, 2, 2, 4, 4).locate(2, 2), NONE);
     }
 
     private static void nearest() {
@@ -390,10 +333,9 @@ public final class PromisesTest {
         DUE.same("13: of two the least slot", x.nearest(9, 2), 1);
         x.move(0, 100, 100);
         DUE.same("13: of three the least slot", x.nearest(2, 2), 1);
-        int[] far = {1000001, -1000001, LEAST, MOST};
-        for (int f : far) {
-            DUE.same("13: nearest(" + f + ", 0)", x.nearest(f, 0), FannedSites.NONE);
-            DUE.same("13: nearest(0, " + f + ")", x.nearest(0, f), FannedSites.NONE);
+        for (int f : FAR) {
+            DUE.same("13: nearest(" + f + ", 0)", x.nearest(f, 0), NONE);
+            DUE.same("13: nearest(0, " + f + ")", x.nearest(0, f), NONE);
         }
         FannedSites wide = of(1000000, 1000000, -1000000, 999999);
         DUE.same("13: across the whole range", wide.nearest(-1000000, -1000000), 1);
@@ -402,7 +344,7 @@ public final class PromisesTest {
         wide.remove(1);
         DUE.same("13: one alone, as far as can be", wide.nearest(-1000000, -1000000), 0);
         wide.remove(0);
-        DUE.same("13: none", wide.nearest(0, 0), FannedSites.NONE);
+        DUE.same("13: none", wide.nearest(0, 0), NONE);
     }
 
     private static void neighbours() {
@@ -411,7 +353,7 @@ public final class PromisesTest {
         DUE.same("14: no diagonal in a face of four", x.neighbours(2), set(1, 3));
         DUE.same("14: last and first too", x.neighbours(3), set(0, 2));
         for (int slot : NO_SLOTS) {
-            DUE.same("14: neighbours(" + slot + ")", x.neighbours(slot), FannedSites.NONE);
+            DUE.same("14: neighbours(" + slot + ")", x.neighbours(slot), NONE);
         }
         DUE.same("14: insert", x.insert(2, 2), 4);
         DUE.same("14: of the middle", x.neighbours(4), set(0, 1, 2, 3));
@@ -446,13 +388,13 @@ public final class PromisesTest {
         FannedSites x = square();
         int[] none = {-1, 4, 19, 20, 39, 40, 41, LEAST, MOST};
         for (int i : none) {
-            DUE.same("15: boundary(" + i + ")", x.boundary(i), FannedSites.NONE);
+            DUE.same("15: boundary(" + i + ")", x.boundary(i), NONE);
         }
         FannedSites all = full();
         for (int i = 0; i < 20; i++) {
             DUE.same("15: all twenty", all.boundary(i), i);
         }
-        DUE.same("15: behind all twenty", all.boundary(20), FannedSites.NONE);
+        DUE.same("15: behind all twenty", all.boundary(20), NONE);
     }
 
     private static void boundaryOfALine() {
@@ -520,8 +462,7 @@ public final class PromisesTest {
         DUE.same("17: the same clockwise", of(0, 0, 0, 1, 3, 0).area(), 3);
         DUE.same("17: a square", square().area(), 32);
         DUE.same("17: with some inside and on the edge", of(1, 1, 0, 0, 4, 0, 2, 0, 4, 4, 0, 4, 2, 3).area(), 32);
-        DUE.same("17: the whole range",
-            of(-1000000, -1000000, 1000000, -1000000, 1000000, 1000000, -1000000, 1000000).area(), 8000000000000L);
+        DUE.same("17: the whole range", wholeRange().area(), 8000000000000L);
         FannedSites x = square();
         x.remove(2);
         DUE.same("17: after one went", x.area(), 16);
